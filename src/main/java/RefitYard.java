@@ -469,6 +469,8 @@ public final class RefitYard {
     /** The works, how they hang on one another, and how long that makes the whole. */
     private static final class Net {
         final Work[] works = new Work[MOST_WORKS];
+        /** The works' numbers, each behind those that it needs. */
+        final int[] ranked = new int[MOST_WORKS];
         final long[] takers = new long[GOODS];
         final long[] dwellers = new long[MOST_SPACES];
         int size;
@@ -500,20 +502,17 @@ public final class RefitYard {
             weigh();
         }
 
-        /**
-         * A work hangs on more works than any that it needs, so going by that number
-         * meets every work behind those that it needs.
-         */
         void weigh() {
+            rank();
             for (int i = 0; i < size; i++) {
                 works[i].early = 0;
                 works[i].tail = 0;
             }
-            for (int below = 0; below < size; below++) {
-                weighEarly(below);
+            for (int r = 0; r < size; r++) {
+                pushEarly(works[ranked[r]]);
             }
-            for (int below = size - 1; below >= 0; below--) {
-                weighTail(below);
+            for (int r = size - 1; r >= 0; r--) {
+                pushTail(works[ranked[r]]);
             }
             way = 0;
             for (int i = 0; i < size; i++) {
@@ -521,11 +520,18 @@ public final class RefitYard {
             }
         }
 
-        private void weighEarly(int below) {
-            for (int i = 0; i < size; i++) {
-                Work w = works[i];
-                if (Long.bitCount(w.under) == below) {
-                    pushEarly(w);
+        /**
+         * A work hangs on more works than any that it needs does, so a row by that number
+         * has every work behind those that it needs.
+         */
+        private void rank() {
+            int r = 0;
+            for (int below = 0; below < size; below++) {
+                for (int i = 0; i < size; i++) {
+                    if (Long.bitCount(works[i].under) == below) {
+                        ranked[r] = i;
+                        r++;
+                    }
                 }
             }
         }
@@ -535,15 +541,6 @@ public final class RefitYard {
                 Work later = works[i];
                 if (later.leansOn(w)) {
                     later.early = Math.max(later.early, w.early + w.length);
-                }
-            }
-        }
-
-        private void weighTail(int below) {
-            for (int i = 0; i < size; i++) {
-                Work w = works[i];
-                if (Long.bitCount(w.under) == below) {
-                    pushTail(w);
                 }
             }
         }
