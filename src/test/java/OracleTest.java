@@ -1,4 +1,3 @@
-import java.lang.reflect.Method;
 import java.util.Random;
 
 /** Long runs of drawn calls, each answer held against PlainYard's; the draws are the same each time. */
@@ -142,35 +141,12 @@ public final class OracleTest {
 
     private void ask(int call, int a, int b, int c) {
         String text = NAMES[call] + "(" + a + ", " + b + ", " + c + ")";
-        long want = answerOf(plain, NAMES[call], a, b, c);
-        long got = answerOf(yard, NAMES[call], a, b, c);
+        long want = Calls.answer(plain, NAMES[call], a, b, c);
+        long got = Calls.answer(yard, NAMES[call], a, b, c);
         story.append(text).append(" = ").append(want).append('\n');
         CHECK.due(text, got, want);
         if (got != want) {
             System.out.println("the run (what does not count stands there too):\n" + story);
-        }
-    }
-
-    /** Calls a method by its name, with as many of the arguments as it takes; a boolean counts 1 or 0. */
-    private static long answerOf(Object yard, String name, int... arguments) {
-        for (Method method : yard.getClass().getDeclaredMethods()) {
-            if (method.getName().equals(name)) {
-                Object[] taken = new Object[method.getParameterCount()];
-                for (int i = 0; i < taken.length; i++) {
-                    taken[i] = arguments[i];
-                }
-                return numberOf(method, yard, taken);
-            }
-        }
-        throw new IllegalStateException("no method " + name);
-    }
-
-    private static long numberOf(Method method, Object yard, Object[] taken) {
-        try {
-            Object answer = method.invoke(yard, taken);
-            return answer instanceof Boolean truth ? (truth ? 1 : 0) : (Integer) answer;
-        } catch (ReflectiveOperationException e) {
-            throw new IllegalStateException(method.getName() + " threw", e);
         }
     }
 }
