@@ -353,6 +353,35 @@ public final class EdgesOfGroundTest extends Edge {
         due(5, yard, "count", 5);
     }
 
+    /** Three bars of one kind, that kind named first, second, and first again. */
+    private static RefitYard threeBars(int how) {
+        RefitYard yard = Yards.ample(1);
+        yard.bar(1, 2, how);
+        yard.bar(3, 1, how);
+        yard.bar(1, 4, how);
+        return yard;
+    }
+
+    static void p06_bar_oneMoreLeavesThoseOfItsKinds() {
+        for (int how = 0; how < 3; how++) {
+            int same = how;
+            for (int kind = 2; kind <= 4; kind++) {
+                refused(() -> threeBars(same), "bar", 1, kind, how);
+                refused(() -> threeBars(same), "bar", kind, 1, how);
+            }
+        }
+    }
+
+    static void p06_bar_eachOfThoseOfOneKindHolds() {
+        for (int kind = 0; kind <= 4; kind++) {
+            RefitYard yard = threeBars(0);
+            yard.work(Yards.what(1, 1, 0, 1, 0), NONE);
+            yard.work(Yards.what(1, 1, 0, kind, 0), NONE);
+            yard.put(1, 0);
+            due(kind < 2 ? YES : NO, yard, "may", 0, 0);
+        }
+    }
+
     static void p06_bar_allThereCanBe() {
         Supplier<RefitYard> all = () -> {
             RefitYard yard = Yards.ample(1);

@@ -312,6 +312,30 @@ public final class EdgesOfPlacesTest extends Edge {
         due(NO, yard, "may", 0, 20);
     }
 
+    static void p12_may_whicheverNumberNeedsIt() {
+        for (int needer = 0; needer < 3; needer++) {
+            RefitYard yard = Yards.ofPlain(3, 2);
+            int needed = (needer + 1) % 3;
+            yard.need(needer, needed);
+            yard.put(needer, 10);
+            due(YES, yard, "may", needed, 8);
+            due(NO, yard, "may", needed, 9);
+            due(YES, yard, "may", (needer + 2) % 3, 9);
+        }
+    }
+
+    static void p12_may_whicheverNumberItNeeds() {
+        for (int needed = 0; needed < 3; needed++) {
+            RefitYard yard = Yards.ofPlain(3, 2);
+            int needer = (needed + 1) % 3;
+            yard.need(needer, needed);
+            yard.put(needed, 10);
+            due(NO, yard, "may", needer, 11);
+            due(YES, yard, "may", needer, 12);
+            due(YES, yard, "may", (needed + 2) % 3, 11);
+        }
+    }
+
     /** It needs another one that is open, and breaks rule 1 by that, wherever this one is. */
     static void p12_may_whatNeedsItBreaksRule1ByAnother() {
         RefitYard yard = Yards.ofPlain(3, 2);

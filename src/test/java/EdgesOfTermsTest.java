@@ -295,6 +295,29 @@ public final class EdgesOfTermsTest extends Edge {
         due(YES, yard, "may", 0, 0);
     }
 
+    /** Four works in shifts 0 to 3, none of which may share a shift with any other. */
+    private static RefitYard allBarred() {
+        RefitYard yard = Yards.ofPlain(4, 1);
+        yard.bar(0, 0, 0);
+        for (int w = 0; w < 4; w++) {
+            yard.put(w, w);
+        }
+        return yard;
+    }
+
+    static void t2_rule5_byAnyOfSeveralOthers() {
+        for (int w = 0; w < 4; w++) {
+            for (int other = 0; other < 4; other++) {
+                due(w == other ? YES : NO, allBarred(), "may", w, other);
+            }
+        }
+        for (int other = 1; other < 4; other++) {
+            RefitYard yard = allBarred();
+            yard.put(0, other);
+            dueBreak(yard, 0, 5, other);
+        }
+    }
+
     static void t2_rule5_inTheFirstSharedShift() {
         RefitYard yard = barred(0);
         yard.put(1, 9);
@@ -374,6 +397,32 @@ public final class EdgesOfTermsTest extends Edge {
         due(3, yard, "told", 2, 8);
         yard.need(2, 0);
         due(7, yard, "told", 2, 8);
+    }
+
+    static void t3_early_whicheverNumberIsNeeded() {
+        for (int needed = 0; needed < 3; needed++) {
+            RefitYard yard = Yards.ofPlain(3, 4);
+            int first = (needed + 1) % 3;
+            int second = (needed + 2) % 3;
+            yard.need(first, needed);
+            yard.need(second, needed);
+            due(0, yard, "told", needed, 8);
+            due(4, yard, "told", first, 8);
+            due(4, yard, "told", second, 8);
+        }
+    }
+
+    static void t3_tail_whicheverNumberNeedsIt() {
+        for (int last = 0; last < 3; last++) {
+            RefitYard yard = Yards.ofPlain(3, 4);
+            int first = (last + 1) % 3;
+            int second = (last + 2) % 3;
+            yard.need(last, first);
+            yard.need(last, second);
+            due(0, yard, "told", last, 9);
+            due(4, yard, "told", first, 9);
+            due(4, yard, "told", second, 9);
+        }
     }
 
     static void t3_tail_is0WithoutThoseThatNeedIt() {

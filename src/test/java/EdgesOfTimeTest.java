@@ -192,13 +192,8 @@ public final class EdgesOfTimeTest extends Edge {
         }
     }
 
-    /** It tells of one that is open, one that is put, one that has begun, and one that is done. */
-    static void p22_fail_whatItTellsOfAsFarAsItIsDone() {
-        RefitYard yard = Yards.ofPlain(4, 2);
-        Yards.test(yard, 1);
-        for (int w = 0; w < 4; w++) {
-            yard.tells(4, w);
-        }
+    /** Test 4 is done, and fails: of 0 to 3, one is open, one put, one has begun, and one is done. */
+    private static void dueOnlyTheDoneOneOpened(RefitYard yard) {
         yard.put(1, 6);
         yard.put(2, 5);
         yard.put(3, 4);
@@ -211,21 +206,22 @@ public final class EdgesOfTimeTest extends Edge {
         due(5, yard, "told", 2, 7);
     }
 
-    /** The test is needed by one that is open, one that is put, one that has begun, and one that is done. */
+    static void p22_fail_whatItTellsOfAsFarAsItIsDone() {
+        RefitYard yard = Yards.ofPlain(4, 2);
+        Yards.test(yard, 1);
+        for (int w = 0; w < 4; w++) {
+            yard.tells(4, w);
+        }
+        dueOnlyTheDoneOneOpened(yard);
+    }
+
     static void p22_fail_whatNeedsItAsFarAsItIsDone() {
         RefitYard yard = Yards.ofPlain(4, 2);
         Yards.test(yard, 1);
         for (int w = 0; w < 4; w++) {
             yard.need(w, 4);
         }
-        yard.put(1, 6);
-        yard.put(2, 5);
-        yard.put(3, 4);
-        yard.put(4, 0);
-        yard.go(6);
-        due(2, yard, "fail", 4);
-        dueStates(yard, 0, 1, 2, 0, 0);
-        dueOpenedAgain(yard, 0, 0, 0, 1, 1);
+        dueOnlyTheDoneOneOpened(yard);
     }
 
     static void p22_fail_whatNeedsWhatItTellsOf() {
@@ -241,7 +237,7 @@ public final class EdgesOfTimeTest extends Edge {
         dueStates(yard, 0, 0, 0);
     }
 
-    /** All 40 works in a chain, with the test under them or the one it tells of above. */
+    /** All 40 works in a chain, upwards or downwards by their numbers: the one under all fails. */
     static void p22_fail_throughAChainOfAll() {
         for (int step : new int[] {1, -1}) {
             RefitYard yard = Yards.ample(1);
@@ -419,6 +415,22 @@ public final class EdgesOfTimeTest extends Edge {
         due(1, yard, "load", 399, 8);
         due(1, yard, "load", 393, 0);
         due(400, yard, "end");
+    }
+
+    static void p23_more_itsHandsCountOnceInEachShift() {
+        RefitYard yard = Yards.ofPlain(1, 2);
+        yard.put(0, 5);
+        yard.more(0, 2);
+        int[] hands = {0, 1, 1, 1, 1, 0};
+        for (int i = 0; i < hands.length; i++) {
+            due(hands[i], yard, "load", 4 + i, 0);
+            due(hands[i], yard, "load", 4 + i, 8);
+        }
+        yard.take(0);
+        for (int i = 0; i < hands.length; i++) {
+            due(0, yard, "load", 4 + i, 0);
+            due(0, yard, "load", 4 + i, 8);
+        }
     }
 
     static void p23_more_onePutBeyondTheLastShift() {
