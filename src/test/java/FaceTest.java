@@ -1,15 +1,11 @@
-import java.io.IOException;
 import java.lang.reflect.Constructor;
 import java.lang.reflect.Field;
 import java.lang.reflect.Method;
 import java.lang.reflect.Modifier;
-import java.nio.file.Files;
-import java.nio.file.Path;
 import java.util.Set;
 import java.util.TreeSet;
-import java.util.regex.Pattern;
 
-/** The face that the document shows, and the rules of LANGUAGE.md that can be read off the code. */
+/** The face that the document shows, and nothing beside it. */
 public final class FaceTest {
     private static final Check CHECK = new Check("FaceTest");
 
@@ -20,13 +16,8 @@ public final class FaceTest {
         "int why(int)", "int told(int,int)", "int load(int,int)", "int plan()", "int best()", "int end()",
         "int bound()", "int go(int)", "int fail(int)", "int more(int,int)", "int count(int)");
 
-    private static final String[] BANNED = {
-        "\\bthrow\\b", "\\btry\\b", "\\bcatch\\b", "\\bsynchronized\\b", "\\bassert\\b", "\\bpackage\\b",
-        "->", "::", "Exact\\b", "\\bThread\\b", "\\bRandom\\b", "\\bhashCode\\b"};
-
-    public static void main(String[] args) throws IOException {
+    public static void main(String[] args) {
         members();
-        source();
         CHECK.finish();
     }
 
@@ -63,13 +54,5 @@ public final class FaceTest {
             text.append(text.length() == 0 ? "" : ",").append(type.getSimpleName());
         }
         return method.getReturnType().getSimpleName() + " " + method.getName() + "(" + text + ")";
-    }
-
-    private static void source() throws IOException {
-        String text = Files.readString(Path.of("src/main/java/RefitYard.java"));
-        String code = text.replaceAll("(?s)/\\*.*?\\*/", "").replaceAll("//[^\n]*", "");
-        for (String banned : BANNED) {
-            CHECK.no("the code has " + banned, Pattern.compile(banned).matcher(code).find());
-        }
     }
 }
